@@ -85,7 +85,7 @@ public final class BridgeStrip {
         }
         tapeLength = 0;
         spare.clear();
-        boolean read = reader.readBook(n, spare);
+        boolean read = reader.read(n, spare, false, 0);
         latestFault = reader.fault;
         if (!read) {
             return refuse(FAULTY);
@@ -116,7 +116,7 @@ public final class BridgeStrip {
         }
         tapeLength = 0;
         int before = now.laws.count;
-        boolean read = reader.readLaws(n, now, today);
+        boolean read = reader.read(n, now, true, today);
         latestFault = reader.fault;
         if (!read) {
             now.laws.count = before;
@@ -841,19 +841,11 @@ public final class BridgeStrip {
             book = into;
         }
 
-        boolean readBook(int length, Book into) {
-            lawsAlone = false;
-            return readLines(length, into, 0);
-        }
-
-        boolean readLaws(int length, Book into, int today) {
-            lawsAlone = true;
-            return readLines(length, into, today);
-        }
-
-        private boolean readLines(int length, Book into, int known) {
+        /** Reads the first bytes of the tape into a book: whether there was no fault. */
+        boolean read(int length, Book into, boolean onlyLaws, int known) {
             end = Math.min(length, text.length);
             book = into;
+            lawsAlone = onlyLaws;
             knownFrom = known;
             fault = 0;
             faultPlace = NONE;
@@ -1099,21 +1091,22 @@ public final class BridgeStrip {
                 start++;
             }
             next = start;
-            if (start >= end) {
-                token = END;
-            } else if (isLetter(text[start])) {
+            int sign = start < end ? text[start] : BLANK;
+            if (sign >= 'a' && sign <= 'z') {
                 stepOverWord();
-            } else if (isDigit(text[start])) {
+            } else if (sign >= '0' && sign <= '9') {
                 stepOverWhole();
-            } else {
-                token = text[start] == ';' ? SIGN : WRONG;
+            } else if (start < end) {
+                token = sign == ';' ? SIGN : WRONG;
                 next = start + 1;
+            } else {
+                token = END;
             }
         }
 
         private void stepOverWord() {
             word = 0;
-            while (next < end && isLetter(text[next])) {
+            while (next < end && text[next] >= 'a' && text[next] <= 'z') {
                 word = word * 32 + (text[next] - 'a' + 1);
                 next++;
             }
@@ -1122,19 +1115,11 @@ public final class BridgeStrip {
 
         private void stepOverWhole() {
             whole = 0;
-            while (next < end && isDigit(text[next])) {
+            while (next < end && text[next] >= '0' && text[next] <= '9') {
                 whole = whole * 10 + (text[next] - '0');
                 next++;
             }
             token = next - start <= WHOLE_ROOM ? WHOLE : WRONG;
-        }
-
-        private static boolean isLetter(int sign) {
-            return sign >= 'a' && sign <= 'z';
-        }
-
-        private static boolean isDigit(int sign) {
-            return sign >= '0' && sign <= '9';
         }
 
         private boolean fail(int sort) {
@@ -1698,18 +1683,35 @@ public final class BridgeStrip {
                 keepTried(thing);
                 most = things;
             }
-            if (thing >= THINGS || things + THINGS - thing <= most) {
+            if (thing >= THINGS || things + countFree(thing, bars) <= most) {
                 return;
             }
             for (int i = 0; i < clauses[thing]; i++) {
                 int clause = thing * CLAUSES + i;
-                if ((words[clause] & (bars | barred[clause])) == 0) {
+                if (mayStand(clause, bars)) {
                     tried[thing] = i;
                     choose(thing + 1, things + 1, bars | barred[clause]);
                 }
             }
             tried[thing] = NOTHING;
             choose(thing + 1, things, bars);
+        }
+
+        private boolean mayStand(int clause, int bars) {
+            return (words[clause] & (bars | barred[clause])) == 0;
+        }
+
+        /** How many things from one on have a clause that may stand with what is chosen ahead of it. */
+        private int countFree(int from, int bars) {
+            int free = 0;
+            for (int thing = from; thing < THINGS; thing++) {
+                boolean may = false;
+                for (int i = 0; i < clauses[thing] && !may; i++) {
+                    may = mayStand(thing * CLAUSES + i, bars);
+                }
+                free += may ? 1 : 0;
+            }
+            return free;
         }
 
         /** Keeps what is tried for the things ahead of one, and none for the others. */
