@@ -691,7 +691,7 @@ public final class BridgeStrip {
             return saysTakes(ruling(inLand, ofKind, ofOffice, day, day));
         }
 
-        /** The least day behind this one on which a law of a land on a kind begins to count or ends. */
+        /** The least day behind this one on which a law of a land on a kind begins to count or has ended. */
         int changeBehind(int day, int inLand, int ofKind) {
             int soonest = NEVER;
             for (int i = 0; i < count; i++) {
@@ -1228,14 +1228,13 @@ public final class BridgeStrip {
             return day;
         }
 
-        /** The least day behind this one on which a person's paper of a kind begins or has ended. */
-        int changeBehind(int day, int person, int ofKind) {
+        /** The least day behind this one on which a person's paper of a kind begins, or NEVER. */
+        int beginningBehind(int day, int person, int ofKind) {
             int soonest = NEVER;
             int end = endOfPapers(person);
             for (int paper = firstPaper(person); paper < end; paper++) {
                 if (kind[paper] == ofKind) {
                     soonest = Laws.sooner(soonest, from[paper], day);
-                    soonest = Laws.sooner(soonest, to[paper] + 1, day);
                 }
             }
             return soonest;
@@ -1328,19 +1327,22 @@ public final class BridgeStrip {
                 if (isOpen(book, person, road, day)) {
                     return day + book.roads.days[road];
                 }
-                // Between two changes a road stays as it is: the days between need no look.
-                day = changeBehind(book, person, road, day);
+                day = openingBehind(book, person, road, day);
             }
             return NEVER;
         }
 
-        private int changeBehind(Book book, int person, int road, int day) {
+        /**
+         * The least day behind this one on which a closed road may have opened, or NEVER: only a law
+         * that begins, is known or has ended, or a paper that begins, can open one.
+         */
+        private int openingBehind(Book book, int person, int road, int day) {
             Roads roads = book.roads;
             int soonest = NEVER;
             for (int i = 0; i < roads.posts[road]; i++) {
                 int post = road * Roads.POSTS + i;
                 int byLaw = book.laws.changeBehind(day, roads.asking[post], roads.asked[post]);
-                int byPaper = people.changeBehind(day, person, roads.asked[post]);
+                int byPaper = people.beginningBehind(day, person, roads.asked[post]);
                 soonest = Math.min(soonest, Math.min(byLaw, byPaper));
             }
             return soonest;

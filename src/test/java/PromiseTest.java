@@ -38,6 +38,7 @@ public final class PromiseTest {
         clauses();
         signedOrder();
         debts();
+        fullRoom();
         counts();
         quietCalls();
         CHECK.end();
@@ -502,6 +503,14 @@ public final class PromiseTest {
         CHECK.granted("what opens it", s.opener(0, 61), s, 0);
         CHECK.granted("what opens it", s.opener(0, 31), s, -2);
         CHECK.granted("what opens it", s.opener(0, 30), s, 8);
+        BridgeStrip one = of("place a;place b;land x;kind k;kind m;office o;"
+                + "road a b days 2 coin 0 ask m by x;law x takes m of o since 3");
+        one.person(0);
+        one.paper(0, 0, 0, 7, 999);
+        one.paper(0, 1, 0, 50, 60);
+        one.paper(0, 1, 0, 30, 31);
+        CHECK.granted("waits for a paper of the kind", one.first(0, 1, 0), one, 32);
+        CHECK.granted("waits for the other one", one.first(0, 1, 32), one, 52);
     }
 
     private static void lateWays() {
@@ -914,6 +923,59 @@ public final class PromiseTest {
         }
         CHECK.refused("a contract too many", s.contract(0, 1), s, 3);
         CHECK.refused("a number comes first", s.contract(0, 0), s, 2);
+    }
+
+    /** All room is used, and the last of each is asked for: nothing is looked for behind its row. */
+    private static void fullRoom() {
+        StringBuilder text = new StringBuilder("land l;kind k;office o;place a;place b");
+        for (int i = 0; i < 6; i++) {
+            text.append(";place p").append((char) ('a' + i));
+        }
+        for (int i = 0; i < 15; i++) {
+            text.append(";road a b days 1 coin 9");
+        }
+        text.append(";road a pf days 1 coin 9 ask k by l ask k by l ask k by l");
+        for (int i = 0; i < 6; i++) {
+            text.append(";gift k of o after 1");
+        }
+        BridgeStrip s = of(text.toString());
+        for (int i = 0; i < 3; i++) {
+            Caller.laws(s, "law l bars k of o since 9;law l bars k of o since 9;law l bars k of o since 9;"
+                    + "law l bars k of o since 9;law l bars k of o since 9;law l bars k of o since 9;"
+                    + "law l bars k of o since 9;law l takes k of o since 5");
+        }
+        CHECK.due("all laws", s.count(5), 24);
+        CHECK.due("all roads", s.count(4), 16);
+        for (int i = 0; i < 30; i++) {
+            CHECK.due("person " + i, i % 2 == 0 ? s.person(0) : s.child(i - 1), i);
+        }
+        for (int i = 1; i < 8; i++) {
+            s.paper(29, 0, 0, 900 + i, 900 + i);
+        }
+        for (int i = 0; i < 9; i++) {
+            s.stamp(0, 0, i + 1);
+        }
+        for (int i = 0; i < 20; i++) {
+            s.judge(0, 0, 29, 9, i);
+        }
+        CHECK.granted("the last person's paper", s.is(29, 0, 5), s, 1);
+        CHECK.due("the last person's last paper", s.held(29, 7, 3), 907);
+        CHECK.granted("nobody is lost", s.nowhere(0, 5), s, 0);
+        CHECK.granted("all children are lost", s.nowhere(0, 4), s, 15);
+        CHECK.granted("the last place", s.first(29, 7, 0), s, 6);
+        CHECK.granted("the last place", s.cheap(29, 7, 5), s, 9);
+        CHECK.granted("three places", s.reach(29, 5), s, 3);
+        CHECK.granted("none more", s.opener(29, 5), s, -2);
+        CHECK.granted("for the first", s.opener(28, 5), s, 0);
+        CHECK.due("led to the last place", s.led(29, 7, 0, 1), 7);
+        CHECK.granted("the cheapest stamp", s.least(0, 7, 5), s, 1);
+        CHECK.due("the cheapest stamp", s.bought(), 1);
+        CHECK.refused("too early for it", s.least(0, 7, 4), s, 6);
+        CHECK.granted("the last judgment", s.binds(29, 9, 0, 5), s, 19);
+        CHECK.granted("one land", s.unlike(29, 9, 5), s, 0);
+        s.contract(29, 999);
+        CHECK.granted("the last person's debt", s.burn(0, 1000), s, 999_000);
+        CHECK.due("the last person's debt", s.owed(29), 999_000);
     }
 
     /** Promise 37. */
