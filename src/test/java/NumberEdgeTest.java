@@ -90,6 +90,7 @@ public final class NumberEdgeTest {
         fullOfStamps();
         fullOfJudgments();
         fullOfClauses();
+        noClauseMayStand();
         fullOfQuarrels();
         fullOfContracts();
         fullOfAll();
@@ -204,6 +205,12 @@ public final class NumberEdgeTest {
         for (int what = 0; what <= 13; what++) {
             e.tells(0, "count", what);
         }
+        e.tells(-1, "bought");
+        e.tells(0, "fault");
+        e.tells(-1, "where");
+        e.tells(-1, "owed", 0);
+        e.tells(-1, "held", 0, 0, 0);
+        e.leadsNowhere(0, 0, 0, 0);
     }
 
     /** Promises 12, 35, 36 and 37: "NONE", "NONE for none such", "NoSuchElementException", "NONE for others". */
@@ -452,6 +459,18 @@ public final class NumberEdgeTest {
         e.gives(0, "clause", 0, 65_535);
         e.gives(0, "signs", 0);
         e.gives(1, "signed");
+    }
+
+    /** Every clause there is room for is barred. */
+    private static void noClauseMayStand() {
+        Edge e = new Edge(CHECK, "place a");
+        for (int i = 0; i < 36; i++) {
+            e.gives(i % 4, "clause", i / 4, 1 << i % 16);
+        }
+        for (int word = 0; word < 16; word++) {
+            e.gives(word + 1, "quarrel", word, word);
+        }
+        e.signs(-2, -2, -2, -2, -2, -2, -2, -2, -2);
     }
 
     /** "QUARRELS: up to 20", also where one is told again. */

@@ -10,13 +10,15 @@ public final class RandomTest {
         "a", "b", "x", "abcdefgh", "abcdefghi", "0", "1", "60", "61", "400", "401", "999", "1000", "9999",
         "00001", "0001", ";", ";;", "A", "-", "\t", "\u00e9"};
 
-    private final Random random;
-    private final Check check;
+    private static final int MOST_CALLS = 512;
+    private static final String[] AFTERWARDS = {"trouble", "trouble", "where", "fault"};
     private static final int ANY = 0;
     private static final int WAYS = 1;
     private static final int GIFTS = 2;
     private static final int RULINGS = 3;
 
+    private final Random random;
+    private final Check check;
     private final List<String> told = new ArrayList<>();
     private int flavour;
     private BridgeStrip strip;
@@ -32,7 +34,7 @@ public final class RandomTest {
     }
 
     public static void main(String[] args) {
-        int runs = args.length > 0 ? Integer.parseInt(args[0]) : 300;
+        int runs = args.length > 0 ? Integer.parseInt(args[0]) : 600;
         long seed = args.length > 1 ? Long.parseLong(args[1]) : 17;
         Check check = new Check("RandomTest");
         for (int run = 0; run < runs && check.wrong() == 0; run++) {
@@ -43,16 +45,14 @@ public final class RandomTest {
     }
 
     private void run(int number) {
-        strip = new BridgeStrip();
-        plain = new Plain();
-        told.clear();
-        calls = 0;
+        begin();
         flavour = number % 4;
-        if (number % 10 == 0) {
-            anyCalls(30);
-        }
         if (number % 3 == 0) {
-            texts(12);
+            texts(14);
+            begin();
+        }
+        if (number % 10 == 0) {
+            anyCalls(10);
         }
         book(goodBook());
         settle();
@@ -66,19 +66,37 @@ public final class RandomTest {
         }
     }
 
+    private void begin() {
+        strip = new BridgeStrip();
+        plain = new Plain();
+        told.clear();
+        calls = 0;
+    }
+
+    /** A call, and one of the three that tell how it went: together no more than an object is used for. */
     private long ask(String name, int... x) {
-        if (calls >= 512 || check.wrong() != 0) {
+        boolean isFeed = name.equals("feed");
+        if (calls + (isFeed ? 1 : 2) > MOST_CALLS || check.wrong() != 0) {
             return -1;
         }
+        long got = same(name, x);
+        if (!isFeed) {
+            same(AFTERWARDS[pick(AFTERWARDS.length)]);
+        }
+        return got;
+    }
+
+    private long same(String name, int... x) {
         calls++;
         long got = Caller.call(strip, name, x);
         long want = plain.call(name, x);
         told.add("  " + name + Arrays.toString(x) + " -> " + got);
         check.due(name + Arrays.toString(x), got, want);
-        check.due(name + Arrays.toString(x) + ": trouble", strip.trouble(), plain.call("trouble"));
-        check.due(name + Arrays.toString(x) + ": where", strip.where(), plain.call("where"));
-        check.due(name + Arrays.toString(x) + ": fault", strip.fault(), plain.call("fault"));
         return got;
+    }
+
+    private int counted(int what) {
+        return (int) plain.call("count", what);
     }
 
     private int pick(int bound) {
@@ -329,7 +347,7 @@ public final class RandomTest {
     }
 
     private int person() {
-        int many = strip.count(7);
+        int many = counted(7);
         return odd(many == 0 ? 0 : pick(many));
     }
 
@@ -357,7 +375,7 @@ public final class RandomTest {
             case 5 -> ask("move", person(), any(0));
             case 6 -> ask("is", person(), any(3), day());
             case 7 -> ask("nowhere", any(3), day());
-            case 8, 9 -> ask("open", person(), odd(pick(Math.max(1, strip.count(4)))), day());
+            case 8, 9 -> ask("open", person(), odd(pick(Math.max(1, counted(4)))), day());
             case 10, 11, 12 -> ask("first", person(), any(0), day());
             case 13, 14 -> ask("cheap", person(), any(0), day());
             case 15 -> ask("reach", person(), day());
@@ -396,7 +414,7 @@ public final class RandomTest {
     }
 
     private void later() {
-        ask("laws", strip.count(13));
+        ask("laws", counted(13));
         String text = pick(5) == 0 ? mutated(lawText()) : lawText();
         feed(text);
         ask("laws", text.length());
@@ -404,7 +422,7 @@ public final class RandomTest {
 
     private void again() {
         if (pick(12) == 0) {
-            ask("book", strip.count(13));
+            ask("book", counted(13));
             book(goodBook());
             settle();
         }

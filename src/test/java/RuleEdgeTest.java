@@ -388,9 +388,17 @@ public final class RuleEdgeTest {
             e.gives(1, "paper", 0, 0, 0, 0, 999);
             e.gives(5, "first", 0, 3, 0);
             e.leads(0, 3, 0, 0, turn == 0 ? 2 : 1, 3);
-            // a day later only c is in time, a day sooner only b
+            // from a day later on only c is in time
             e.leads(0, 3, 1, 0, 2, 3);
         }
+        // ways of one day, be it the last one or the first beyond it
+        Edge f = new Edge(CHECK, "place a;place b;place c;place d;road d c days 2 coin 0;road d b days 3 coin 0;road b a days 1 coin 0;"
+                + "road a c days 2 coin 0");
+        f.gives(0, "person", 0);
+        f.gives(999, "first", 0, 3, 995);
+        f.leads(0, 3, 995, 0, 2, 3);
+        f.gives(1000, "first", 0, 3, 996);
+        f.leads(0, 3, 996, 0, 2, 3);
     }
 
     /** "(0: where they are; the last: that PLACE)"; "NoSuchElementException if there is none such" */
