@@ -29,6 +29,11 @@ public final class AnewTest {
             use(again);
             long[] want = answers(fresh, book);
             CHECK.that(Arrays.equals(want, answers(again, book)), "as a new object does: " + book);
+            Edge twice = new Edge(CHECK, RICH);
+            use(twice);
+            CHECK.due("the rich book again", twice.book(RICH), 3);
+            use(twice);
+            CHECK.that(Arrays.equals(want, answers(twice, book)), "as a new object does, behind two books: " + book);
             Edge faulty = new Edge(CHECK);
             CHECK.due("a faulty book", faulty.book(RICH + ";place"), -1);
             CHECK.that(Arrays.equals(want, answers(faulty, book)), "as without a faulty book: " + book);

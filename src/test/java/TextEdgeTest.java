@@ -26,6 +26,7 @@ public final class TextEdgeTest {
         blanks();
         ends();
         missingTokens();
+        missingParts();
         reservedNames();
         freeNames();
         namesOfAnotherSort();
@@ -211,7 +212,15 @@ public final class TextEdgeTest {
             bad(2, "place abcdefgh;road ^" + other + " abcdefgh days 1 coin 1");
         }
         bad(3, "place abcdefgh;place ^abcdefgh");
-        good("place a;place aa;place aaa;place aaaa;place aaaaa;place aaaaaa;place aaaaaaa;place aaaaaaaa", 0);
+        for (char c = 'a'; c <= 'z'; c++) {
+            StringBuilder text = new StringBuilder("place " + c);
+            for (int length = 2; length <= 8; length++) {
+                text.append(";place ").append(times(length, "" + c));
+            }
+            good(text.toString(), 0);
+            bad(2, "place @;road ^@@ @ days 1 coin 1".replace('@', c));
+            bad(2, "place @@;road ^@ @@ days 1 coin 1".replace('@', c));
+        }
     }
 
     /** "WHOLES of 1 to 4 digits that do" */
@@ -327,6 +336,28 @@ public final class TextEdgeTest {
             text.append(i == at ? "^" + other : tokens[i]).append(" ");
         }
         bad(1, text.toString());
+    }
+
+    /** The parts of a line stand in their order, and none is left out but those in brackets. */
+    private static void missingParts() {
+        String[] lines = {"road p q ^coin 1", "road p q ^coin 1 days 1", "road p q ^1 coin 1", "road p q days ^coin 1", "road p q days 1 ^1",
+            "road p q days 1 ^ask k by l", "road p q days 1 coin ^ask k by l", "road p q ^ask k by l", "road p q^", "road p q days 1^",
+            "road p q days 1 coin 1 ^k by l", "road p q days 1 coin 1 ask k ^l", "road p q days 1 coin 1 ask k^",
+            "road p q days 1 coin 1 ask k by l ^days 1", "road p q days 1 coin 1 ^until 1", "road p q days 1 coin 1 ^road p q days 1 coin 1",
+            "law l ^k of o since 1", "law l takes k ^o since 1", "law l takes k ^since 1", "law l takes k of o ^1", "law l takes k of o^",
+            "law l bars k of o ^until 1", "law l takes k of o since ^until 1", "law l takes k of o since 1 ^2",
+            "law l takes k of o since 1 ^ask k by l", "law l takes k of o since 1 ^if born p", "law l takes ^1",
+            "gift k ^o after 1", "gift k ^after 1", "gift k of o ^1", "gift k of o ^if born p", "gift k of o after ^if born p",
+            "gift k of o after 1 ^born p", "gift k of o after 1 if ^p", "gift k of o after 1 if holds k ^o", "gift k of o after 1 if parent k^",
+            "gift k of o after 1 ^until 2", "gift k of o after 1 if born p ^born p", "place z ^place y", "place z;^"};
+        for (String line : lines) {
+            bad(1, NAMES + line);
+        }
+        // a keyword that stands where a name is due is a name, and isn't told
+        for (String line : new String[] {"road q ^days 1 coin 1", "road ^days 1 coin 1", "law ^takes k of o since 1", "law l takes ^of o since 1",
+            "law l takes k of ^since 1", "gift ^of o after 1", "gift k of ^after 1", "road p q days 1 coin 1 ask ^by l"}) {
+            bad(2, NAMES + line);
+        }
     }
 
     // ---- terms I: names
