@@ -823,6 +823,10 @@ public final class BridgeStrip {
         int fault;
         int faultPlace;
 
+        /** The words that are no names, as numbers: a look at one calls nothing, so that calls stay few deep. */
+        private final long[] reserved = {numberOf("place"), numberOf("land"), numberOf("office"),
+            numberOf("kind"), numberOf("road"), numberOf("law"), numberOf("gift"), numberOf("ask"),
+            numberOf("until"), numberOf("if")};
         private final byte[] text;
         private int end;
         private Book book;
@@ -1080,9 +1084,20 @@ public final class BridgeStrip {
         }
 
         private boolean isName() {
-            return token == WORD && !sees("place") && !sees("land") && !sees("office")
-                    && !sees("kind") && !sees("road") && !sees("law") && !sees("gift")
-                    && !sees("ask") && !sees("until") && !sees("if");
+            boolean free = token == WORD;
+            for (int i = 0; i < reserved.length; i++) {
+                free = free && word != reserved[i];
+            }
+            return free;
+        }
+
+        /** The number that a word of these letters has behind stepOverWord(). */
+        private static long numberOf(String letters) {
+            long number = 0;
+            for (int i = 0; i < letters.length(); i++) {
+                number = number * 32 + (letters.charAt(i) - 'a' + 1);
+            }
+            return number;
         }
 
         private void step() {

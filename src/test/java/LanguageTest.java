@@ -3,6 +3,10 @@ import java.nio.file.Files;
 import java.nio.file.Path;
 import java.util.ArrayList;
 import java.util.List;
+import java.util.Map;
+import java.util.Set;
+import java.util.TreeMap;
+import java.util.TreeSet;
 import java.util.regex.Matcher;
 import java.util.regex.Pattern;
 
@@ -21,6 +25,10 @@ public final class LanguageTest {
         {"1", "\\bpackage\\b|\\bprotected\\b|\\bpublic\\s+static\\s+(?!final int NONE)"},
     };
 
+    private static final Pattern METHOD = Pattern.compile(
+            " {4}(?: {4})?(?:public |private )?(?:static )?[\\w\\[\\]]+ (\\w+)\\(.*\\{");
+    private static final Set<String> CONTROL = Set.of("if", "for", "while", "switch", "return");
+
     public static void main(String[] args) throws IOException {
         String text = Files.readString(Path.of("src/main/java/BridgeStrip.java"));
         CHECK.that(text.chars().allMatch(c -> c == '\n' || c >= 32 && c < 127), "plain signs alone");
@@ -37,6 +45,7 @@ public final class LanguageTest {
         throwsOnly(code);
         madeOnce(code);
         methods(code);
+        depth(code);
         CHECK.end();
     }
 
@@ -72,7 +81,7 @@ public final class LanguageTest {
         List<Integer> starts = new ArrayList<>();
         String[] lines = code.split("\n");
         for (int i = 0; i < lines.length; i++) {
-            if (lines[i].matches(" {4}( {4})?(public |private )?(static )?[\\w\\[\\]]+ \\w+\\(.*\\{")) {
+            if (METHOD.matcher(lines[i]).matches()) {
                 starts.add(i);
             }
         }
@@ -85,5 +94,47 @@ public final class LanguageTest {
             }
             CHECK.that(end - start < 60, "short: " + lines[start].trim());
         }
+    }
+
+    /**
+     * Rule 11: calls go at most eight deep, the library's own counted. Methods of one name in two
+     * classes count as one that calls what both do, so this is never less than what runs.
+     */
+    private static void depth(String code) {
+        Map<String, Set<String>> calls = new TreeMap<>();
+        String method = "";
+        for (String line : code.split("\n")) {
+            Matcher head = METHOD.matcher(line);
+            if (head.matches()) {
+                method = head.group(1);
+                calls.putIfAbsent(method, new TreeSet<>());
+                continue;
+            }
+            Matcher call = Pattern.compile("(\\w+)\\(").matcher(line);
+            while (call.find() && !method.isEmpty()) {
+                if (!CONTROL.contains(call.group(1))) {
+                    calls.get(method).add(call.group(1));
+                }
+            }
+        }
+        CHECK.that(calls.containsKey("book") && calls.get("use").contains("isName"), "calls are found");
+        for (String name : calls.keySet()) {
+            List<String> way = deepest(name, calls, Set.of(name));
+            CHECK.that(way.size() <= 8, "at most eight deep: " + way);
+        }
+    }
+
+    private static List<String> deepest(String name, Map<String, Set<String>> calls, Set<String> open) {
+        List<String> way = new ArrayList<>();
+        for (String called : calls.getOrDefault(name, Set.of())) {
+            if (!open.contains(called)) {
+                Set<String> more = new TreeSet<>(open);
+                more.add(called);
+                List<String> further = deepest(called, calls, more);
+                way = further.size() > way.size() ? further : way;
+            }
+        }
+        way.add(0, name);
+        return way;
     }
 }
